@@ -8,7 +8,7 @@ public final class OracleTest {
 
     public static void main(String[] args) {
         int loops = args.length > 0 ? Integer.parseInt(args[0]) : 600;
-        for (int kind = 0; kind < 6; kind++) {
+        for (int kind = 0; kind < 8; kind++) {
             Random random = new Random(1000 + kind + (args.length > 1 ? Long.parseLong(args[1]) : 0));
             for (int n = 1; n <= 3; n++) {
                 RankFinder finder = new RankFinder();
@@ -29,7 +29,8 @@ public final class OracleTest {
     }
 
     private static void tryLoop(RankFinder finder, int n, int kind, Random random) {
-        int[][] rules = loop(n, kind, random);
+        int[] planted = plantedFunction(random);
+        int[][] rules = kind < 7 ? loop(n, kind, random) : plantedLoop(planted, random);
         finder.begin(n);
         for (int[] r : rules) {
             finder.rule(r[0], r[1], r[2], r[3], r[4], r[5], r[6]);
@@ -44,7 +45,8 @@ public final class OracleTest {
         }
         for (int i = 0; i < 4; i++) {
             tryLeast(finder, oracle, goal(n, i, rules, random), about);
-            tryRanks(finder, oracle, i, random, about);
+            tryRanks(finder, oracle, someFunction(i, random), random, about);
+            tryRanks(finder, oracle, multiple(planted, random), random, about);
         }
     }
 
@@ -62,12 +64,26 @@ public final class OracleTest {
         }
     }
 
-    private static void tryRanks(RankFinder finder, Oracle oracle, int way, Random random, String about) {
+    private static int[] someFunction(int way, Random random) {
         int size = way == 0 ? 1 : way == 1 ? 9 : 999;
         int[] r = new int[3];
         for (int i = 0; i < 3; i++) {
             r[i] = way == 3 ? 999 * (random.nextInt(3) - 1) : random.nextInt(2 * size + 1) - size;
         }
+        return r;
+    }
+
+    private static int[] multiple(int[] function, Random random) {
+        int[] r = function.clone();
+        int times = random.nextBoolean() ? 111 : 1 + random.nextInt(5);
+        for (int i = 0; i < 3; i++) {
+            r[i] *= times;
+        }
+        return r;
+    }
+
+    private static void tryRanks(
+            RankFinder finder, Oracle oracle, int[] r, Random random, String about) {
         int s = random.nextInt(1999) - 999;
         String what = about + " ranks " + java.util.Arrays.toString(r) + " " + s;
         boolean due = oracle.ranks(r, s);
@@ -98,7 +114,7 @@ public final class OracleTest {
     private static int[][] loop(int n, int kind, Random random) {
         int count = kind == 1 || kind == 3 ? 8 : random.nextInt(9);
         int[][] rules = new int[count][7];
-        int[] factors = {9, 9, 1, 1, 2, 3};
+        int[] factors = {9, 9, 1, 1, 2, 3, 9};
         for (int k = 0; k < count; k++) {
             for (int i = 0; i < 6; i++) {
                 int factor = factors[kind];
@@ -112,6 +128,44 @@ public final class OracleTest {
             }
         }
         return rules;
+    }
+
+    private static int[] plantedFunction(Random random) {
+        int[] r = new int[3];
+        for (int i = 0; i < 3; i++) {
+            r[i] = random.nextInt(19) - 9;
+        }
+        return r;
+    }
+
+    /** Rules that sum up to a bound of r and to a fall of it, each spread over up to four of them. */
+    private static int[][] plantedLoop(int[] r, Random random) {
+        int forBound = 1 + random.nextInt(4);
+        int forFall = 1 + random.nextInt(4);
+        int[][] rules = new int[forBound + forFall][7];
+        for (int i = 0; i < 3; i++) {
+            spread(rules, 0, forBound, i, -r[i], random);
+            spread(rules, 0, forBound, 3 + i, 0, random);
+            spread(rules, forBound, forFall, i, -r[i], random);
+            spread(rules, forBound, forFall, 3 + i, r[i], random);
+        }
+        for (int[] rule : rules) {
+            rule[6] = random.nextInt(80) - 40;
+        }
+        return rules;
+    }
+
+    private static void spread(int[][] rules, int from, int count, int i, int sum, Random random) {
+        int left = sum;
+        for (int k = from + count - 1; k > from; k--) {
+            // What is left must fit the first rule in the end.
+            int part = random.nextInt(19) - 9;
+            if (Math.abs(left - part) <= 9) {
+                rules[k][i] = part;
+                left -= part;
+            }
+        }
+        rules[from][i] = left;
     }
 
     /** Makes rules as loops have them: bounds before the turn, changes, and equations of two rules. */
