@@ -251,6 +251,7 @@ public final class RankFinder {
         private static final int MOST_EQUATIONS = 3 * MOST_VARIABLES;
         private static final int MOST_WEIGHTS = 2 * MOST_RULES;
         private static final long LOW_HALF = 0xFFFFFFFFL;
+        private static final long SIGN_BIT = 1L << 63;
 
         // By Bland's rule no set of held columns comes twice, and there are 12,870 at most.
         private static final int MOST_STEPS = 1000000;
@@ -471,7 +472,8 @@ public final class RankFinder {
             long second = c * d;
             long low = first - second;
             long high = highProduct(a, b) - highProduct(c, d);
-            if (first + Long.MIN_VALUE < second + Long.MIN_VALUE) {
+            // The low halves have no sign of their own; by this bit they compare as if they had.
+            if (first + SIGN_BIT < second + SIGN_BIT) {
                 high--;
             }
             // Two shifts, as one by 64 would shift by nothing.

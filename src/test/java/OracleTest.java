@@ -3,6 +3,7 @@ import java.util.Random;
 
 /** Random loops of several kinds, each answer held against Oracle's. The seeds are fixed. */
 public final class OracleTest {
+    private static final int CALLS_OF_A_LOOP = 40;
     private static int wrong = 0;
     private static final int[] seen = new int[10];
 
@@ -11,8 +12,11 @@ public final class OracleTest {
         for (int kind = 0; kind < 8; kind++) {
             Random random = new Random(1000 + kind + (args.length > 1 ? Long.parseLong(args[1]) : 0));
             for (int n = 1; n <= 3; n++) {
-                RankFinder finder = new RankFinder();
+                CountedFinder finder = new CountedFinder();
                 for (int i = 0; i < loops && wrong < 20; i++) {
+                    if (finder.calls() + CALLS_OF_A_LOOP > CountedFinder.MOST_CALLS) {
+                        finder = new CountedFinder();
+                    }
                     tryLoop(finder, n, kind, random);
                 }
             }
@@ -28,12 +32,12 @@ public final class OracleTest {
         System.exit(wrong == 0 ? 0 : 1);
     }
 
-    private static void tryLoop(RankFinder finder, int n, int kind, Random random) {
+    private static void tryLoop(CountedFinder finder, int n, int kind, Random random) {
         int[] planted = plantedFunction(random);
         int[][] rules = kind < 7 ? loop(n, kind, random) : plantedLoop(planted, random);
         finder.begin(n);
         for (int[] r : rules) {
-            finder.rule(r[0], r[1], r[2], r[3], r[4], r[5], r[6]);
+            finder.rule(r);
         }
         Oracle oracle = new Oracle(n, rules);
         String about = n + " " + java.util.Arrays.deepToString(rules);
@@ -50,8 +54,8 @@ public final class OracleTest {
         }
     }
 
-    private static void tryLeast(RankFinder finder, Oracle oracle, int[] g, String about) {
-        int found = finder.least(g[0], g[1], g[2], g[3], g[4], g[5]);
+    private static void tryLeast(CountedFinder finder, Oracle oracle, int[] g, String about) {
+        int found = finder.least(g);
         String what = about + " least " + java.util.Arrays.toString(g);
         BigInteger[] due = oracle.least(g);
         int dueFound = !oracle.hasTurn() ? 0 : due == null ? 1 : 2;
@@ -83,7 +87,7 @@ public final class OracleTest {
     }
 
     private static void tryRanks(
-            RankFinder finder, Oracle oracle, int[] r, Random random, String about) {
+            CountedFinder finder, Oracle oracle, int[] r, Random random, String about) {
         int s = random.nextInt(1999) - 999;
         String what = about + " ranks " + java.util.Arrays.toString(r) + " " + s;
         boolean due = oracle.ranks(r, s);

