@@ -54,7 +54,7 @@ public final class FaceTest {
         }
         hold("methods are " + seen, seen.equals(new TreeSet<>(Arrays.asList(FACE))));
         for (String name : privateNames) {
-            hold("no public name: " + name, !String.join(" ", FACE).contains(" " + name + "("));
+            checkPrivateName(name);
         }
         Constructor<?>[] constructors = type.getDeclaredConstructors();
         hold("one public constructor", constructors.length == 1
@@ -63,6 +63,10 @@ public final class FaceTest {
         for (Field field : type.getDeclaredFields()) {
             checkField(field);
         }
+    }
+
+    private static void checkPrivateName(String name) {
+        hold("no public name: " + name, !String.join(" ", FACE).contains(" " + name + "("));
     }
 
     private static void checkField(Field field) {
@@ -84,6 +88,10 @@ public final class FaceTest {
                 hold("private: " + field, Modifier.isPrivate(field.getModifiers()));
                 hold("static means final: " + field, !Modifier.isStatic(field.getModifiers())
                         || Modifier.isFinal(field.getModifiers()));
+            }
+            for (Method method : nested.getDeclaredMethods()) {
+                checkPrivateName(method.getName());
+                hold("seven parameters at most: " + method, method.getParameterCount() <= 7);
             }
         }
     }
